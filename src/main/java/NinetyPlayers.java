@@ -1646,8 +1646,8 @@ public final class NinetyPlayers {
         private final int[] barsSame = new int[NOTES_MOST];
         private final int[] barsRight = new int[NOTES_MOST];
         private final int[] barsLeft = new int[NOTES_MOST];
-        /** By beat: the last note on which the leap to it depends. */
-        private final int[] leapSettledBy = new int[BEATS_MOST];
+        /** By note: beats such that it is the last note on which the leap to them depends. */
+        private final int[] settledLeaps = new int[NOTES_MOST];
 
         Arranger(Keyboard keyboard, int[] missed) {
             this.keyboard = keyboard;
@@ -1661,9 +1661,7 @@ public final class NinetyPlayers {
         void arrange() {
             for (int note = 0; note < keyboard.notes; note++) {
                 findBars(note);
-            }
-            for (int beat = 1; beat < keyboard.beats; beat++) {
-                leapSettledBy[beat] = lastOf(keyboard.timelyAt(beat - 1) | keyboard.timelyAt(beat));
+                findSettledLeaps(note);
             }
             loss = NOTES_MOST * MISSED_MOST + 1;
             left = 0;
@@ -1671,12 +1669,12 @@ public final class NinetyPlayers {
             search(0, 0, 0, 0);
         }
 
-        private static int lastOf(int set) {
-            int last = NONE;
-            for (int note = 0; note < NOTES_MOST; note++) {
-                last = (set >> note & 1) != 0 ? note : last;
+        private void findSettledLeaps(int note) {
+            settledLeaps[note] = 0;
+            for (int beat = 1; beat < keyboard.beats; beat++) {
+                int dependsOn = keyboard.timelyAt(beat - 1) | keyboard.timelyAt(beat);
+                settledLeaps[note] |= dependsOn >> note == 1 ? 1 << beat : 0;
             }
-            return last;
         }
 
         private void findBars(int note) {
@@ -1710,12 +1708,10 @@ public final class NinetyPlayers {
                 return;
             }
             int bit = 1 << note;
-            boolean leftFree = (lefts & barsSame[note] | rights & barsRight[note]) == 0;
-            if (leftFree && fingersReach(note, lefts | bit) && leapsFit(note, lefts | bit, rights)) {
+            if (isFreeLeft(note, lefts, rights) && fingersReach(note, lefts | bit) && leapsFit(note, lefts | bit, rights)) {
                 search(note + 1, lefts | bit, rights, lost);
             }
-            boolean rightFree = (rights & barsSame[note] | lefts & barsLeft[note]) == 0;
-            if (rightFree && fingersReach(note, rights | bit) && leapsFit(note, lefts, rights | bit)) {
+            if (isFreeRight(note, lefts, rights) && fingersReach(note, rights | bit) && leapsFit(note, lefts, rights | bit)) {
                 search(note + 1, lefts, rights | bit, lost);
             }
             if (leapsFit(note, lefts, rights)) {
@@ -1723,8 +1719,17 @@ public final class NinetyPlayers {
             }
         }
 
+        private boolean isFreeLeft(int note, int lefts, int rights) {
+            return (lefts & barsSame[note] | rights & barsRight[note]) == 0;
+        }
+
+        private boolean isFreeRight(int note, int lefts, int rights) {
+            return (rights & barsSame[note] | lefts & barsLeft[note]) == 0;
+        }
+
         private boolean fingersReach(int note, int hand) {
-            for (int beat = 0; beat < keyboard.beats; beat++) {
+            boolean enough = Integer.bitCount(hand) <= keyboard.fingers;
+            for (int beat = 0; !enough && beat < keyboard.beats; beat++) {
                 int set = keyboard.timelyAt(beat);
                 if ((set >> note & 1) != 0 && Integer.bitCount(set & hand) > keyboard.fingers) {
                     return false;
@@ -1735,8 +1740,9 @@ public final class NinetyPlayers {
 
         /** A lower note may yet mend a leap: so a leap is judged when no note to come can change it. */
         private boolean leapsFit(int note, int lefts, int rights) {
-            for (int beat = 1; beat < keyboard.beats; beat++) {
-                if (leapSettledBy[beat] == note) {
+            int settled = settledLeaps[note];
+            for (int beat = 1; settled != 0 && beat < keyboard.beats; beat++) {
+                if ((settled >> beat & 1) != 0) {
                     int ahead = keyboard.timelyAt(beat - 1);
                     int here = keyboard.timelyAt(beat);
                     int ofLeft = keyboard.leapBetween(lefts & ahead, lefts & here);
