@@ -94,6 +94,7 @@ public final class PromiseTest {
         setsSureAsk();
         images();
         about();
+        byWhatIsNow();
         System.out.println(wrong == 0 ? "PromiseTest: all answers are as due" : "PromiseTest: " + wrong + " wrong");
         if (wrong != 0) {
             System.exit(1);
@@ -209,6 +210,12 @@ public final class PromiseTest {
         faulty("part p;note a of p at 0 key 0 long 1 loud;", 2, 41);
         faulty("part p;note a of p at 0 key 0 loud 1;", 2, 30);
         faulty("part p;note a of q at 0 key 0 long 1;part q;", 5, 17);
+        faulty("part p;note a p at 0 key 0 long 1;", 2, 14);
+        faulty("part p;note a of p 0 key 0 long 1;", 2, 19);
+        faulty("part p;note a of p at 0 0 long 1;", 2, 24);
+        faulty("part p;note a of p at 0 key 0 1;", 2, 30);
+        faulty("part p;note a of p at 0 key 0 long 1 2;", 2, 37);
+        faulty("part zip;note zap of zip at 0 key 0 long 1;note za of zip at 0 key 0 long 1;", 0, -1);
         String[] ten = {"0 0 1", "0 0 1", "0 0 1", "0 0 1", "0 0 1", "0 0 1", "0 0 1", "0 0 1", "0 0 1", "0 0 1"};
         String full = text("part p;", ten);
         faulty(full, 0, -1);
@@ -472,6 +479,10 @@ public final class PromiseTest {
         due(12, "-8", x.shift(0, -8), -1);
         due(12, "note 2", x.shift(2, 1), -1);
         due(12, "acts", x.about(8), 5);
+        NinetyPlayers y = notes("part p;", "0 1 1");
+        due(12, "seven up", y.shift(0, 7), 85);
+        due(12, "eight down", y.shift(0, -8), -1);
+        due(12, "seven down", y.shift(0, -7), 1);
         due(13, "louder", x.louder(0, 9), 4);
         due(13, "it is so", x.louder(0, 9), -1);
         due(13, "10", x.louder(0, 10), -1);
@@ -561,6 +572,14 @@ public final class PromiseTest {
         due(21, "child(5, 87)", x.child(5, 87), 0);
         due(21, "numbers", x.about(14), 6);
         due(21, "child(1, 0)", x.child(1, 0), 6);
+        NinetyPlayers hand = notes("beats 1;part p;fingers 1;span 0;", "0 40 1", "0 41 1", "0 42 1", "0 60 1");
+        due(21, "one finger", hand.version(0), 10);
+        due(21, "one finger", hand.child(1, 87), 10);
+        due(21, "two fingers", hand.child(2, 87), 0);
+        due(21, "two fingers, no further than one key", hand.child(2, 1), 5);
+        due(21, "two fingers, not far enough", hand.child(2, 17), 5);
+        due(21, "left, left, right, right", hand.child(2, 18) * 10000 + hand.lies(0) * 1000 + hand.lies(1) * 100
+                + hand.lies(2) * 10 + hand.lies(3), 1122);
         for (int[] bad : new int[][] {{0, 5}, {6, 5}, {2, -1}, {2, 88}}) {
             x.child(1, 0);
             due(21, "child(" + bad[0] + ", " + bad[1] + ")", x.child(bad[0], bad[1]), -1);
@@ -643,6 +662,8 @@ public final class PromiseTest {
         due(24, "another what", x.letin(2, -1), -100);
         due(24, "note 4", x.letin(4, 0), -100);
         x.give(1, 0);
+        due(24, "another what", x.letin(2, 2), -100);
+        due(24, "another what", x.letin(2, -1), -100);
         due(24, "right of the left one", x.letin(2, 1), 2);
         due(24, "not shifted", x.letin(2, 0), 0);
         due(24, "the same key: up, by the right one", x.letin(3, 0), 1);
@@ -807,6 +828,7 @@ public final class PromiseTest {
         due(37, "none is left out", y.could(1), 0);
         NinetyPlayers z = notes("beats 1;part p;fingers 2;span 10;", "0 40 1", "0 45 1", "0 51 1", "0 30 1", "0 40 1");
         due(37, "all", z.could(1), 31);
+        due(37, "all", z.could(2), 31);
         z.give(0, 1);
         due(37, "left", z.could(1), 2 | 8);
         due(37, "right", z.could(2), 2 | 4);
@@ -952,6 +974,81 @@ public final class PromiseTest {
         due(46, "a box stays as it was kept", x.differ(2), 2);
         x.image(2);
         due(45, "kept anew", x.differ(2), 0);
+    }
+
+    /** Each question right behind an act, an undo, a way back and a new score: none may answer by what was. */
+    private static void byWhatIsNow() {
+        NinetyPlayers x = of(SMALL);
+        long[] first = new long[22];
+        for (int question = 0; question < first.length; question++) {
+            first[question] = answer(x, question);
+        }
+        for (int question = 0; question < first.length; question++) {
+            x.give(2, 1);
+            x.undo();
+            due(18, "after undo, question " + question, answer(x, question), first[question]);
+            x.image(0);
+            x.give(2, 1);
+            x.give(0, 1);
+            x.pedal(1);
+            x.last(2, 1);
+            x.back(0);
+            due(46, "after back, question " + question, answer(x, question), first[question]);
+            tell(x, "part p tune;note a of p at 0 key 40 long 9;");
+            x.give(0, 1);
+            x.clashes();
+            tell(x, SMALL);
+            due(4, "after score, question " + question, answer(x, question), first[question]);
+        }
+    }
+
+    private static long answer(NinetyPlayers x, int question) {
+        switch (question) {
+            case 0:
+                return x.held(2, 1);
+            case 1:
+                return x.sounds(2);
+            case 2:
+                return x.clash(0);
+            case 3:
+                return x.clashes();
+            case 4:
+                return x.loss();
+            case 5:
+                return x.version(0);
+            case 6:
+                return x.child(1, 3);
+            case 7:
+                return x.forbids(3, 1);
+            case 8:
+                return x.giveway(4, 1, 1);
+            case 9:
+                return x.letin(4, 1);
+            case 10:
+                return x.pedals(1);
+            case 11:
+                return x.spread(1);
+            case 12:
+                return x.leaps(1);
+            case 13:
+                return x.blur();
+            case 14:
+                return x.open(2);
+            case 15:
+                return x.lost();
+            case 16:
+                return x.gaps();
+            case 17:
+                return x.easier(2);
+            case 18:
+                return x.thickest();
+            case 19:
+                return x.busiest(1);
+            case 20:
+                return x.law(3);
+            default:
+                return x.could(1);
+        }
     }
 
     private static void about() {
