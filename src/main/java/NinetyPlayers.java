@@ -1331,37 +1331,32 @@ public final class NinetyPlayers {
         }
 
         int valueOf(int kind, int which) {
-            switch (kind) {
-                case HAND:
-                    return hands[which];
-                case KEY:
-                    return keys[which];
-                case LENGTH:
-                    return lengths[which];
-                case LOUD:
-                    return louds[which];
-                default:
-                    return pedal;
+            int[] row = rowOf(kind);
+            if (kind == PEDAL) {
+                return pedal;
             }
+            return which >= 0 && which < row.length ? row[which] : 0;
         }
 
         void put(int kind, int which, int value) {
+            int[] row = rowOf(kind);
+            if (kind == PEDAL) {
+                pedal = value;
+            } else if (which >= 0 && which < row.length) {
+                row[which] = value;
+            }
+        }
+
+        private int[] rowOf(int kind) {
             switch (kind) {
                 case HAND:
-                    hands[which] = value;
-                    break;
+                    return hands;
                 case KEY:
-                    keys[which] = value;
-                    break;
+                    return keys;
                 case LENGTH:
-                    lengths[which] = value;
-                    break;
-                case LOUD:
-                    louds[which] = value;
-                    break;
+                    return lengths;
                 default:
-                    pedal = value;
-                    break;
+                    return louds;
             }
         }
     }

@@ -841,11 +841,12 @@ public final class ModelTest {
             if (r.nextInt(10) > 0) {
                 newScore();
             }
+            boolean manyActs = r.nextInt(6) == 0;
             for (int i = 0; i < CALLS && wrong < 20; i++) {
-                if (r.nextInt(120) == 0) {
+                if (!manyActs && r.nextInt(120) == 0) {
                     newScore();
                 }
-                if (r.nextInt(3) == 0) {
+                if (r.nextInt(3) == 0 || manyActs && r.nextInt(3) > 0) {
                     act();
                 } else {
                     query(r.nextInt(36));
@@ -1202,7 +1203,9 @@ public final class ModelTest {
                         spread = Math.max(spread, here.isEmpty() ? 0 : here.get(here.size() - 1) - here.get(0));
                         leaps = Math.max(leaps, here.isEmpty() || ahead.isEmpty() ? 0 : Math.abs(here.get(0) - ahead.get(0)));
                     }
-                    check("spread " + hand, x.spread(hand), isHand ? spread : -1);
+                    if (r.nextBoolean()) {
+                        check("spread " + hand, x.spread(hand), isHand ? spread : -1);
+                    }
                     check("leaps " + hand, x.leaps(hand), isHand ? leaps : -1);
                     break;
                 }
@@ -1236,7 +1239,9 @@ public final class ModelTest {
                     break;
                 }
                 case 29:
-                    check("thickest", x.thickest(), m.fullest(true, true));
+                    if (r.nextBoolean()) {
+                        check("thickest", x.thickest(), m.fullest(true, true));
+                    }
                     check("busiest " + hand, x.busiest(hand), isHand ? m.fullest(hand == 1, hand == 2) : -1);
                     break;
                 case 30: {

@@ -483,6 +483,7 @@ public final class PromiseTest {
         due(12, "seven up", y.shift(0, 7), 85);
         due(12, "eight down", y.shift(0, -8), -1);
         due(12, "seven down", y.shift(0, -7), 1);
+        due(12, "so many that twelves wrap around to 8", y.shift(0, 357913942), -1);
         due(13, "louder", x.louder(0, 9), 4);
         due(13, "it is so", x.louder(0, 9), -1);
         due(13, "10", x.louder(0, 10), -1);
@@ -553,6 +554,19 @@ public final class PromiseTest {
         due(17, "40 to redo", x.about(9), 40);
         x.redo();
         due(17, "redo the oldest first", x.about(7), 3);
+        NinetyPlayers y = notes("beats 3;part p;", "0 40 2 1", "1 44 2 1", "1 48 2 1");
+        for (int i = 0; i < 44; i++) {
+            y.louder(i % 3, i / 3 % 8 + 2);
+        }
+        for (int i = 43; i >= 4; i--) {
+            due(16, "undo", y.undo(), true);
+            due(16, "the note of the act", y.note(i % 3, 4), i < 3 ? 1 : (i / 3 - 1) % 8 + 2);
+        }
+        due(16, "the oldest are gone", y.undo(), false);
+        for (int i = 4; i < 44; i++) {
+            due(17, "redo", y.redo(), true);
+            due(17, "the note of the act", y.note(i % 3, 4), i / 3 % 8 + 2);
+        }
     }
 
     private static void lossAndVersion() {
