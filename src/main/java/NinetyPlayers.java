@@ -706,28 +706,31 @@ public final class NinetyPlayers {
         static final int DOUBLED = 19;
         static final int BEAT = 20;
 
-        /** In the order of their numbers, a blank behind each. */
+        static final int LETTERS_MOST = 8;
+
+        /** In the order of their numbers, each filled up with blanks to as many letters as a word may have. */
         private static final String ALL =
-                "beats part note missed span fingers leap ear tune bass of at or and not role key long loud doubled beat ";
+                "beats   part    note    missed  span    fingers leap    ear     tune    bass    of      at      or      and     not     role    key     long    loud    doubled beat    ";
 
         static int numberOf(byte[] text, int from, int to) {
-            int number = 0;
-            boolean same = true;
-            int at = from;
-            for (int i = 0; i < ALL.length(); i++) {
-                char c = ALL.charAt(i);
-                if (c != ' ') {
-                    same = same && at >= 0 && at < to && at < text.length && text[at] == c;
-                    at++;
-                } else if (same && at == to) {
+            for (int number = 0; number <= BEAT; number++) {
+                if (stands(number, text, from, to)) {
                     return number;
-                } else {
-                    number++;
-                    same = true;
-                    at = from;
                 }
             }
             return NONE;
+        }
+
+        private static boolean stands(int number, byte[] text, int from, int to) {
+            int start = number * LETTERS_MOST;
+            for (int i = 0; i < LETTERS_MOST && start + i < ALL.length(); i++) {
+                int at = from + i;
+                int letter = at >= 0 && at < to && at < text.length ? text[at] : ' ';
+                if (ALL.charAt(start + i) != letter) {
+                    return false;
+                }
+            }
+            return to - from <= LETTERS_MOST;
         }
     }
 
@@ -924,7 +927,6 @@ public final class NinetyPlayers {
         static final int SIGN = 4;
         static final int WRONG = 5;
 
-        private static final int LETTERS_MOST = 8;
         private static final int DIGITS_MOST = 4;
         private static final String SIGNS = ";()<>=+-*/%";
 
@@ -975,7 +977,7 @@ public final class NinetyPlayers {
             }
             value = Word.numberOf(text, place, next);
             kind = value == NONE ? NAME : WORD;
-            if (next - place > LETTERS_MOST) {
+            if (next - place > Word.LETTERS_MOST) {
                 kind = WRONG;
             }
         }
