@@ -372,6 +372,10 @@ public final class PromiseTest {
         String least = "4096*4096*128";
         due(6, "the least int by -1", missedBy("(" + least + "/(0-1)=" + least + ")*7"), 7);
         due(6, "its rest", missedBy("(" + least + "%(0-1)=0)*7"), 7);
+        String nots = "not ".repeat(7);
+        due(6, "as long as can be", missedBy((nots + "0 and ").repeat(29) + nots + "0"), 1);
+        due(6, "as long as can be", missedBy((nots + "0 and ").repeat(29) + nots + "1"), 0);
+        due(6, "as deep as can be", missedBy("1+(1+(1+(1+(1+(1+(1+(2+3<4 or 5)*9))))))"), 7 + 9);
         NinetyPlayers x = of("part p;note a of p at 0 key 10 long 2;missed key+long*100+loud*10;");
         x.shift(0, 1);
         x.last(0, 3);
