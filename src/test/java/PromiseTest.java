@@ -1,5 +1,3 @@
-import java.nio.charset.StandardCharsets;
-
 /** Each promise of the document by itself: ordinary inputs, edges, wrong inputs. Answers are worked out by hand. */
 public final class PromiseTest {
     /** Two tune notes, a bass and three of filling: beats 0 to 3. */
@@ -10,62 +8,30 @@ public final class PromiseTest {
             + "span 12;fingers 2;leap 15;ear 2;";
     private static final int ALL_BEATS = 4095;
 
-    private static int wrong = 0;
+    private static final Tally TALLY = new Tally("PromiseTest");
 
     private static void due(int promise, String call, long got, long want) {
-        if (got != want) {
-            wrong++;
-            System.out.println("promise " + promise + ": " + call + " answered " + got + ", due is " + want);
-        }
+        TALLY.due("promise " + promise, call, got, want);
     }
 
     private static void due(int promise, String call, boolean got, boolean want) {
-        due(promise, call, got ? 1 : 0, want ? 1 : 0);
+        TALLY.due("promise " + promise, call, got, want);
     }
 
     private static int tell(NinetyPlayers x, String text) {
-        x.end(0);
-        byte[] bytes = text.getBytes(StandardCharsets.ISO_8859_1);
-        for (int i = 0; i < bytes.length; i += 20) {
-            int[] n = new int[5];
-            for (int j = 0; j < 20 && i + j < bytes.length; j++) {
-                n[j / 4] |= (bytes[i + j] & 255) << 24 - j % 4 * 8;
-            }
-            x.feed(n[0], n[1], n[2], n[3], n[4]);
-        }
-        x.end(bytes.length);
-        return x.score();
+        return Tally.tell(x, text);
     }
 
     private static NinetyPlayers of(String text) {
-        NinetyPlayers x = new NinetyPlayers();
-        if (tell(x, text) < 0) {
-            due(4, "score of " + text, x.fault(0) * 10000 + x.fault(1), 0);
-        }
-        return x;
+        return Tally.of(text);
     }
 
-    /** A text of notes of one part, each "beat key length [loud]". */
     private static NinetyPlayers notes(String head, String... notes) {
-        return of(text(head, notes));
-    }
-
-    private static String text(String head, String... notes) {
-        StringBuilder s = new StringBuilder(head);
-        for (int i = 0; i < notes.length; i++) {
-            String[] n = notes[i].split(" ");
-            s.append("note n").append((char) ('a' + i)).append(" of p at ").append(n[0]);
-            s.append(" key ").append(n[1]).append(" long ").append(n[2]);
-            s.append(n.length > 3 ? " loud " + n[3] : "").append(";");
-        }
-        return s.toString();
+        return Tally.notes(head, notes);
     }
 
     private static void faulty(String text, int kind, int place) {
-        NinetyPlayers x = new NinetyPlayers();
-        due(4, "score of '" + text + "'", tell(x, text), kind == 0 ? x.about(0) : -1);
-        due(5, "fault(0) of '" + text + "'", x.fault(0), kind);
-        due(5, "fault(1) of '" + text + "'", x.fault(1), place);
+        TALLY.text("promises 4 and 5", text, kind, place);
     }
 
     public static void main(String[] args) {
@@ -95,10 +61,7 @@ public final class PromiseTest {
         images();
         about();
         byWhatIsNow();
-        System.out.println(wrong == 0 ? "PromiseTest: all answers are as due" : "PromiseTest: " + wrong + " wrong");
-        if (wrong != 0) {
-            System.exit(1);
-        }
+        TALLY.end();
     }
 
     private static void newObject() {
@@ -217,7 +180,7 @@ public final class PromiseTest {
         faulty("part p;note a of p at 0 key 0 long 1 2;", 2, 37);
         faulty("part zip;note zap of zip at 0 key 0 long 1;note za of zip at 0 key 0 long 1;", 0, -1);
         String[] ten = {"0 0 1", "0 0 1", "0 0 1", "0 0 1", "0 0 1", "0 0 1", "0 0 1", "0 0 1", "0 0 1", "0 0 1"};
-        String full = text("part p;", ten);
+        String full = Tally.lines("part p;", ten);
         faulty(full, 0, -1);
         faulty(full + "note z", 2, full.length());
         faulty(full + "note $", 2, full.length());
