@@ -1,3 +1,5 @@
+import java.util.Arrays;
+
 /** What is MISSED, HELD, SOUNDS, CLASHES, is kept and HEARD: each rule at its bound, just within it and just beyond it. */
 public final class RulesBoundsTest {
     private static final Tally TALLY = new Tally("RulesBoundsTest");
@@ -151,6 +153,11 @@ public final class RulesBoundsTest {
             missedIs(s, r[0] + ">" + r[1], r[3]);
             missedIs(s, r[0] + "=" + r[1], r[4]);
         }
+        for (String no : new String[] {"4<4", "5<4", "4>4", "4>5", "4=5", "5=4", "1 and 0", "0 and 1", "0 or 0", "not 1"}) {
+            missedIs("are 1 or 0", "5+(" + no + ")", 5);
+            missedIs("are 1 or 0", "5+(not (" + no + "))", 6);
+            missedIs("are 1 or 0", "5-3*(" + no + ")", 5);
+        }
         missedIs(s, "0-1<0", 1);
         missedIs(s, "0-2>0-1", 0);
         int[] facts = {2, 40, 3, 7, 1, 2};
@@ -179,8 +186,20 @@ public final class RulesBoundsTest {
         TALLY.due(s + ", 0 at least", "loud 9, doubled 9", y.note(8, 6), 0);
         TALLY.due(s, "the formula is gone with its text", Tally.tell(y, "part p;note a of p at 0 key 0 long 1;missed 77;"), 1);
         TALLY.due(s, "told", y.note(0, 6), 77);
+        for (int i = 0; i < 3; i++) {
+            Tally.tell(y, "part p;note a of p at 0 key 0 long 1;");
+            TALLY.due(s, "not told any more", y.note(0, 6), 5);
+        }
+        Tally.tell(y, "missed 88;$");
+        TALLY.due(s, "not told but in a text with a FAULT", y.note(0, 6), 5);
         Tally.tell(y, "part p;note a of p at 0 key 0 long 1;");
-        TALLY.due(s, "not told any more", y.note(0, 6), 5);
+        TALLY.due(s, "not told but in a text with a FAULT", y.note(0, 6), 5);
+        Tally.tell(y, "part p;note a of p at 0 key 0 long 1;missed 3;");
+        TALLY.due(s, "told anew", y.note(0, 6), 3);
+        Tally.tell(y, "part p;note a of p at 0 key 0 long 1;missed 4;");
+        TALLY.due(s, "told anew", y.note(0, 6), 4);
+        Tally.tell(y, "part p;note a of p at 0 key 0 long 1;missed 5-3;");
+        TALLY.due(s, "told anew", y.note(0, 6), 2);
     }
 
     private static void doubled() {
@@ -400,6 +419,10 @@ public final class RulesBoundsTest {
         TALLY.due("and at the one ahead", "no rest between", rest.clashes(), 4);
         rest.pedal(1);
         TALLY.due("HOLDS, not SOUNDS", "a PEDAL sounds it on", rest.clashes(), 0);
+        NinetyPlayers first = Tally.notes("beats 2;part p;leap 5;", "1 80 1", "0 10 1");
+        giveAll(first, LEFT);
+        TALLY.due("and at the one ahead", "none is ahead of the first BEAT", first.clash(0), 0);
+        TALLY.due("and at the one ahead", "as beats", first.clashes(), 2);
         NinetyPlayers low = Tally.notes("beats 2;part p;leap 20;span 87;", "0 40 1", "0 61 2");
         giveAll(low, RIGHT);
         TALLY.due(s, "the low one ends, the high one stays", low.clash(1), 16);
@@ -602,9 +625,35 @@ public final class RulesBoundsTest {
         versionIs(Tally.lines("part p;leap 0;", "0 40 1", "1 41 1", "2 42 1"), 0, "121");
         versionIs(Tally.lines("part p;leap 0;", "0 40 1", "1 41 1", "1 42 2", "2 43 2"), 5, "1201");
         versionIs(Tally.lines("part p;leap 1;", "0 40 1", "1 41 1", "2 42 1"), 0, "111");
+        // a note told later, and lower, mends a leap or makes it: at the beat ahead, or at this one
+        versionIs(Tally.lines("part p;leap 10;span 40;", "0 60 1", "1 40 1", "0 45 1"), 0, "111");
+        versionIs(Tally.lines("part p;leap 10;span 40;", "0 60 1", "1 40 4", "0 45 1"), 0, "111");
+        versionIs(Tally.lines("part p;leap 10;span 40;", "0 60 1", "1 55 1", "0 40 1"), 0, "121");
+        versionIs(Tally.lines("part p;leap 10;span 40;", "0 30 1", "1 45 1", "1 38 1"), 0, "111");
+        versionIs(Tally.lines("part p;leap 10;span 40;", "0 38 1", "1 45 1", "1 20 1"), 0, "122");
+        // hands must not cross, whichever notes they are
+        versionIs(Tally.lines("part p;fingers 1;", "5 40 1", "0 50 1", "0 40 1"), 0, "121");
+        versionIs(Tally.lines("part p;fingers 1;", "0 40 2", "0 60 3", "2 70 1"), 5, "120");
+        versionIs(Tally.lines("part p;fingers 1;", "5 40 1", "0 40 2", "0 60 3", "2 70 1"), 5, "1120");
         versionIs(Tally.lines("part p;span 0;fingers 1;", "0 10 1", "0 11 1", "0 12 1", "0 13 1"), 10, "1200");
         versionIs(Tally.lines("part p;span 12;", "0 0 1", "0 12 1", "0 13 1", "0 25 1"), 0, "1122");
         versionIs(Tally.lines("part p;span 11;missed loud;", "0 0 1 9", "0 12 1 1", "0 13 1 9", "0 25 1 9"), 9, "1220");
+        String[] one = new String[10];
+        Arrays.fill(one, "0 40 1");
+        versionIs(Tally.lines("part p;missed 9999;", one), 9 * 999, "1000000000");
+        // one score behind the other: nothing of the first is left
+        NinetyPlayers anotherScore = Tally.notes("part p;leap 10;span 0;", "0 30 1", "1 45 1", "3 38 1");
+        anotherScore.version(0);
+        TALLY.same("of what is now", "the first score", hands(anotherScore), "121");
+        Tally.tell(anotherScore, Tally.lines("part p;leap 10;span 40;", "0 30 1", "1 45 1", "1 38 1"));
+        anotherScore.version(0);
+        TALLY.same("of what is now", "the second score", hands(anotherScore), "111");
+        Tally.tell(anotherScore, Tally.lines("part p;fingers 1;", "0 40 1", "0 50 1", "0 30 1"));
+        anotherScore.version(0);
+        TALLY.same("of what is now", "the third score", hands(anotherScore), "120");
+        Tally.tell(anotherScore, Tally.lines("part p;fingers 1;", "0 40 3", "0 50 1", "1 60 1"));
+        anotherScore.version(0);
+        TALLY.same("of what is now", "the fourth score", hands(anotherScore), "122");
         NinetyPlayers pedal = Tally.notes("beats 2;part p;missed loud;", "0 40 2 1", "1 40 1 2");
         TALLY.due("PEDAL as it is", "without", pedal.version(0), 1);
         pedal.pedal(1);
@@ -842,6 +891,16 @@ public final class RulesBoundsTest {
         one.give(1, RIGHT);
         one.give(2, LEFT);
         pedalsAre("one for both", one, 2);
+        // three fingers too many at 3; a pedal at 2 alone makes a leap from 42 to 49, with one at 1 from 45
+        NinetyPlayers late = Tally.notes("beats 4;part p;fingers 2;leap 6;span 87;", "2 49 3", "0 42 2", "1 45 3", "3 51 1");
+        giveAll(late, LEFT);
+        pedalsAre("one late rather than two early", late, 8);
+        NinetyPlayers leap = Tally.notes("beats 2;part p;fingers 1;leap 20;", "0 40 2", "1 60 1");
+        giveAll(leap, RIGHT);
+        pedalsAre("as far as leap tells from the one that is cut", leap, 2);
+        Tally.tell(leap, Tally.lines("beats 2;part p;fingers 1;leap 19;", "0 40 2", "1 60 1"));
+        giveAll(leap, RIGHT);
+        pedalsAre("further than leap tells from the one that is cut", leap, -1);
         NinetyPlayers most = Tally.notes("beats 12;part p;fingers 1;leap 87;", "0 40 2", "1 41 2", "2 42 2", "3 43 2", "4 44 2", "5 45 2",
                 "6 46 2", "7 47 2", "8 48 2", "10 49 2");
         giveAll(most, RIGHT);
@@ -966,6 +1025,10 @@ public final class RulesBoundsTest {
         x.give(0, 0);
         x.louder(3, 9);
         TALLY.due("that is given to a HAND", "left out again", x.lost(), 0);
+        NinetyPlayers two = Tally.of(head + "note a of f at 0 key 40 long 3 loud 9;note b of t at 0 key 50 long 1 loud 6;"
+                + "note c of t at 1 key 60 long 1 loud 6;note d of t at 2 key 60 long 1 loud 7;");
+        giveAll(two, LEFT);
+        TALLY.due("as bits", "two are LOST", two.lost(), 2 | 4);
     }
 
     private static void gapsBounds() {
@@ -982,6 +1045,10 @@ public final class RulesBoundsTest {
         TALLY.due(s, "PEDAL at 2 ends what is HELD", x.gaps(), 15 - 2 - 4);
         x.pedal(2);
         TALLY.due(s, "to the last BEAT", x.gaps(), 1);
+        NinetyPlayers y = Tally.of("beats 4;part b bass;part t tune;part f;note a of b at 0 key 20 long 4;note b of t at 2 key 40 long 1;"
+                + "note c of f at 1 key 60 long 3;");
+        giveAll(y, LEFT);
+        TALLY.due(s, "at 2 alone", y.gaps(), 1 | 2 | 8);
     }
 
     private static void easierBounds() {
@@ -1025,6 +1092,15 @@ public final class RulesBoundsTest {
         TALLY.due("HELD, not SOUNDS", "one at 1, one at 2, one at 4", x.busiest(LEFT), 1);
         x.pedal(4);
         TALLY.due("HELD, not SOUNDS", "thickest", x.thickest(), 4);
+        NinetyPlayers y = Tally.notes("beats 3;part p;", "0 40 3", "1 50 1", "0 60 1");
+        y.give(0, LEFT);
+        TALLY.due(s, "one at 0, 1 and 2", y.thickest(), 0);
+        TALLY.due(s, "one at 0, 1 and 2", y.busiest(LEFT), 0);
+        y.give(1, RIGHT);
+        TALLY.due(s, "two at 1", y.thickest(), 1);
+        y.give(2, RIGHT);
+        TALLY.due(s, "two at 0 and 1", y.thickest(), 0);
+        TALLY.due(s, "one at 0 and 1", y.busiest(RIGHT), 0);
     }
 
     private static void lawBounds() {

@@ -130,6 +130,19 @@ public final class TextBoundsTest {
         TALLY.fine("a NAME told already", "part abcdefgh;part abcdefgi;part bbcdefgh;");
         TALLY.text("a NAME told already", "part abcdefgh;part abcdefgh;", 3, 19);
         TALLY.fine("a NAME told already", "part a;part aa;part aaa;part b;");
+        for (char a = 'a'; a <= 'z'; a++) {
+            for (char b = 'a'; b <= 'z'; b++) {
+                String name = "" + a + b;
+                boolean word = List.of(WORDS).contains(name);
+                for (char c = 'a'; c <= 'z' && !word; c++) {
+                    TALLY.fine("a NAME told already", "part " + name + ";part " + c + ";");
+                }
+                String turned = "" + b + a;
+                if (a != b && !word && !List.of(WORDS).contains(turned)) {
+                    TALLY.fine("a NAME told already", "part " + name + ";part " + turned + ";");
+                }
+            }
+        }
         // so long that the letters of a NAME that is told would show at its end
         TALLY.text(s, "part aaaaaaaa;note n of aaaaaaaaaaaaaaaa", 1, 24);
         TALLY.text(s, "part p;note a of bbbbbbbbbbbbbbbbbbbbbbbbp", 1, 17);
