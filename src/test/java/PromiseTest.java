@@ -60,7 +60,6 @@ public final class PromiseTest {
         setsSureAsk();
         images();
         about();
-        byWhatIsNow();
         TALLY.end();
     }
 
@@ -955,81 +954,6 @@ public final class PromiseTest {
         due(46, "a box stays as it was kept", x.differ(2), 2);
         x.image(2);
         due(45, "kept anew", x.differ(2), 0);
-    }
-
-    /** Each question right behind an act, an undo, a way back and a new score: none may answer by what was. */
-    private static void byWhatIsNow() {
-        NinetyPlayers x = of(SMALL);
-        long[] first = new long[22];
-        for (int question = 0; question < first.length; question++) {
-            first[question] = answer(x, question);
-        }
-        for (int question = 0; question < first.length; question++) {
-            x.give(2, 1);
-            x.undo();
-            due(18, "after undo, question " + question, answer(x, question), first[question]);
-            x.image(0);
-            x.give(2, 1);
-            x.give(0, 1);
-            x.pedal(1);
-            x.last(2, 1);
-            x.back(0);
-            due(46, "after back, question " + question, answer(x, question), first[question]);
-            tell(x, "part p tune;note a of p at 0 key 40 long 9;");
-            x.give(0, 1);
-            x.clashes();
-            tell(x, SMALL);
-            due(4, "after score, question " + question, answer(x, question), first[question]);
-        }
-    }
-
-    private static long answer(NinetyPlayers x, int question) {
-        switch (question) {
-            case 0:
-                return x.held(2, 1);
-            case 1:
-                return x.sounds(2);
-            case 2:
-                return x.clash(0);
-            case 3:
-                return x.clashes();
-            case 4:
-                return x.loss();
-            case 5:
-                return x.version(0);
-            case 6:
-                return x.child(1, 3);
-            case 7:
-                return x.forbids(3, 1);
-            case 8:
-                return x.giveway(4, 1, 1);
-            case 9:
-                return x.letin(4, 1);
-            case 10:
-                return x.pedals(1);
-            case 11:
-                return x.spread(1);
-            case 12:
-                return x.leaps(1);
-            case 13:
-                return x.blur();
-            case 14:
-                return x.open(2);
-            case 15:
-                return x.lost();
-            case 16:
-                return x.gaps();
-            case 17:
-                return x.easier(2);
-            case 18:
-                return x.thickest();
-            case 19:
-                return x.busiest(1);
-            case 20:
-                return x.law(3);
-            default:
-                return x.could(1);
-        }
     }
 
     private static void about() {

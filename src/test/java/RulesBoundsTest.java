@@ -423,6 +423,10 @@ public final class RulesBoundsTest {
         giveAll(first, LEFT);
         TALLY.due("and at the one ahead", "none is ahead of the first BEAT", first.clash(0), 0);
         TALLY.due("and at the one ahead", "as beats", first.clashes(), 2);
+        NinetyPlayers turned = Tally.notes("beats 2;part p;leap 5;", "0 80 1", "1 10 1");
+        giveAll(turned, LEFT);
+        TALLY.due("and at the one ahead", "none is ahead of the first BEAT", turned.clash(0), 0);
+        TALLY.due("and at the one ahead", "as beats", turned.clashes(), 2);
         NinetyPlayers low = Tally.notes("beats 2;part p;leap 20;span 87;", "0 40 1", "0 61 2");
         giveAll(low, RIGHT);
         TALLY.due(s, "the low one ends, the high one stays", low.clash(1), 16);
@@ -618,6 +622,8 @@ public final class RulesBoundsTest {
         versionIs(Tally.lines("part p;missed loud;", "0 40 1 3", "0 40 1 4"), 3, "01");
         versionIs(Tally.lines("part p;fingers 1;", "0 40 1", "0 50 1"), 0, "12");
         versionIs(Tally.lines("part p;fingers 1;", "0 50 1", "0 40 1"), 0, "21");
+        versionIs(Tally.lines("part p;fingers 1;", "0 40 1", "0 41 1"), 0, "12");
+        versionIs(Tally.lines("part p;fingers 1;", "0 41 1", "0 40 1"), 0, "21");
         versionIs(Tally.lines("part p;fingers 1;missed loud;", "0 40 1 1", "0 50 1 1", "0 60 1 1"), 1, "120");
         versionIs(Tally.lines("part p;fingers 1;missed loud;", "0 40 1 1", "0 50 1 1", "0 60 1 2"), 1, "102");
         versionIs(Tally.lines("part p;fingers 1;missed loud;", "0 40 1 1", "0 50 1 2", "0 60 1 2"), 1, "012");
@@ -654,6 +660,9 @@ public final class RulesBoundsTest {
         Tally.tell(anotherScore, Tally.lines("part p;fingers 1;", "0 40 3", "0 50 1", "1 60 1"));
         anotherScore.version(0);
         TALLY.same("of what is now", "the fourth score", hands(anotherScore), "122");
+        Tally.tell(anotherScore, Tally.lines("part p;fingers 1;", "0 50 1", "0 40 1", "5 40 1"));
+        anotherScore.version(0);
+        TALLY.same("of what is now", "the fifth score", hands(anotherScore), "211");
         NinetyPlayers pedal = Tally.notes("beats 2;part p;missed loud;", "0 40 2 1", "1 40 1 2");
         TALLY.due("PEDAL as it is", "without", pedal.version(0), 1);
         pedal.pedal(1);
@@ -1025,6 +1034,15 @@ public final class RulesBoundsTest {
         x.give(0, 0);
         x.louder(3, 9);
         TALLY.due("that is given to a HAND", "left out again", x.lost(), 0);
+        NinetyPlayers rings = Tally.of(head + "note a of f at 0 key 40 long 1 loud 9;note b of t at 1 key 50 long 1 loud 3;");
+        giveAll(rings, LEFT);
+        TALLY.due(s, "what is louder is gone", rings.lost(), 0);
+        rings.pedal(1);
+        TALLY.due(s, "what is louder SOUNDS on", rings.lost(), 2);
+        rings.undo();
+        TALLY.due(s, "what is louder is gone again", rings.lost(), 0);
+        rings.last(0, 2);
+        TALLY.due(s, "what is louder is HELD on", rings.lost(), 2);
         NinetyPlayers two = Tally.of(head + "note a of f at 0 key 40 long 3 loud 9;note b of t at 0 key 50 long 1 loud 6;"
                 + "note c of t at 1 key 60 long 1 loud 6;note d of t at 2 key 60 long 1 loud 7;");
         giveAll(two, LEFT);

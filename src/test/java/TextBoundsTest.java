@@ -136,6 +136,10 @@ public final class TextBoundsTest {
                 boolean word = List.of(WORDS).contains(name);
                 for (char c = 'a'; c <= 'z' && !word; c++) {
                     TALLY.fine("a NAME told already", "part " + name + ";part " + c + ";");
+                    String other = "" + c + b;
+                    if (c != a && !List.of(WORDS).contains(other)) {
+                        TALLY.fine("a NAME told already", "part " + name + ";part " + other + ";");
+                    }
                 }
                 String turned = "" + b + a;
                 if (a != b && !word && !List.of(WORDS).contains(turned)) {
