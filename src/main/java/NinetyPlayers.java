@@ -41,17 +41,16 @@ public final class NinetyPlayers {
     private static final int KEY_TWICE = 8;
     private static final int TOO_FAR = 16;
 
-    private final byte[] tape = new byte[TAPE_MOST];
-    private int tapeSize;
-    private final Reader reader = new Reader(tape);
+    private final Reader reader = new Reader();
+    private final Tape tape = reader.tape;
     private Score told = new Score();
     private final Laying now = new Laying();
     private final Laying[] boxes = {new Laying(), new Laying(), new Laying()};
     private final Acts acts = new Acts();
-    private final Keyboard keyboard = new Keyboard();
-    private final int[] missed = new int[NOTES_MOST];
-    private final Arranger arranger = new Arranger(keyboard, missed);
-    private final Pedaller pedaller = new Pedaller(keyboard);
+    private final Arranger arranger = new Arranger();
+    private final Keyboard keyboard = arranger.keyboard;
+    private final int[] missed = arranger.missed;
+    private final Pedaller pedaller = new Pedaller();
     private final Witness witness = new Witness();
     private final int[] lying = new int[NOTES_MOST];
     private int lyingSize;
@@ -63,36 +62,32 @@ public final class NinetyPlayers {
     // ---- the text
 
     public int feed(int a, int b, int c, int d, int e) {
-        if (tapeSize + FED_AT_ONCE > TAPE_MOST) {
+        if (tape.size + FED_AT_ONCE > TAPE_MOST) {
             return NONE;
         }
-        putFourBytes(a);
-        putFourBytes(b);
-        putFourBytes(c);
-        putFourBytes(d);
-        putFourBytes(e);
-        return tapeSize;
-    }
-
-    private void putFourBytes(int number) {
-        for (int by = 24; by >= 0 && tapeSize < TAPE_MOST; by -= 8) {
-            tape[tapeSize] = (byte) (number >> by);
-            tapeSize++;
-        }
+        tape.putFourBytes(a);
+        tape.putFourBytes(b);
+        tape.putFourBytes(c);
+        tape.putFourBytes(d);
+        tape.putFourBytes(e);
+        return tape.size;
     }
 
     public int end(int n) {
-        if (n < 0 || n > tapeSize) {
+        if (n < 0 || n > tape.size) {
             return NONE;
         }
-        tapeSize = n;
+        tape.size = n;
         return n;
     }
 
     public int score() {
-        boolean well = reader.reads(tapeSize);
-        tapeSize = 0;
-        if (!well) {
+        reader.begin();
+        for (int line = 0; line < TAPE_MOST && reader.goesOn(); line++) {
+            reader.readLine();
+        }
+        tape.size = 0;
+        if (reader.fault != 0) {
             return NONE;
         }
         told = reader.exchange(told);
@@ -389,7 +384,7 @@ public final class NinetyPlayers {
             return NONE;
         }
         lookAtKeys();
-        int set = pedaller.fewest();
+        int set = pedaller.fewest(keyboard);
         return what == 0 && set != NONE ? Integer.bitCount(set) : set;
     }
 
@@ -670,7 +665,7 @@ public final class NinetyPlayers {
             case 11:
                 return witness.time;
             case 12:
-                return tapeSize;
+                return tape.size;
             case 13:
                 return told.formula.units;
             case 14:
@@ -712,25 +707,21 @@ public final class NinetyPlayers {
         private static final String ALL =
                 "beats   part    note    missed  span    fingers leap    ear     tune    bass    of      at      or      and     not     role    key     long    loud    doubled beat    ";
 
+        /** The number of the word that a text has between two places; NONE if none stands there. */
         static int numberOf(byte[] text, int from, int to) {
-            for (int number = 0; number <= BEAT; number++) {
-                if (stands(number, text, from, to)) {
+            for (int number = 0; number <= BEAT && to - from <= LETTERS_MOST; number++) {
+                int start = number * LETTERS_MOST;
+                boolean stands = true;
+                for (int i = 0; stands && i < LETTERS_MOST && start + i < ALL.length(); i++) {
+                    int at = from + i;
+                    int letter = at >= 0 && at < to && at < text.length ? text[at] : ' ';
+                    stands = ALL.charAt(start + i) == letter;
+                }
+                if (stands) {
                     return number;
                 }
             }
             return NONE;
-        }
-
-        private static boolean stands(int number, byte[] text, int from, int to) {
-            int start = number * LETTERS_MOST;
-            for (int i = 0; i < LETTERS_MOST && start + i < ALL.length(); i++) {
-                int at = from + i;
-                int letter = at >= 0 && at < to && at < text.length ? text[at] : ' ';
-                if (ALL.charAt(start + i) != letter) {
-                    return false;
-                }
-            }
-            return to - from <= LETTERS_MOST;
         }
     }
 
@@ -918,8 +909,8 @@ public final class NinetyPlayers {
         }
     }
 
-    /** The text's tokens, one at a time; none is looked at before the one ahead of it was taken. */
-    private static final class Tokens {
+    /** The bytes that were fed, and their tokens, one at a time; none is looked at before the one ahead of it was taken. */
+    private static final class Tape {
         static final int END = 0;
         static final int WORD = 1;
         static final int NAME = 2;
@@ -930,8 +921,8 @@ public final class NinetyPlayers {
         private static final int DIGITS_MOST = 4;
         private static final String SIGNS = ";()<>=+-*/%";
 
-        private final byte[] text;
-        private int size;
+        int size;
+        private final byte[] bytes = new byte[TAPE_MOST];
         private int next;
         int place;
         int kind;
@@ -940,12 +931,14 @@ public final class NinetyPlayers {
         /** The letters of a word, five bits each. */
         long name;
 
-        Tokens(byte[] text) {
-            this.text = text;
+        void putFourBytes(int number) {
+            for (int by = 24; by >= 0 && size < TAPE_MOST; by -= 8) {
+                bytes[size] = (byte) (number >> by);
+                size++;
+            }
         }
 
-        void begin(int textSize) {
-            size = Math.max(0, Math.min(textSize, text.length));
+        void begin() {
             next = 0;
             step();
         }
@@ -975,7 +968,7 @@ public final class NinetyPlayers {
                 name = name << 5 | at(next) - 'a' + 1;
                 next++;
             }
-            value = Word.numberOf(text, place, next);
+            value = Word.numberOf(bytes, place, next);
             kind = value == NONE ? NAME : WORD;
             if (next - place > Word.LETTERS_MOST) {
                 kind = WRONG;
@@ -992,7 +985,7 @@ public final class NinetyPlayers {
         }
 
         private int at(int index) {
-            return index >= 0 && index < size && index < text.length ? text[index] & 255 : NONE;
+            return index >= 0 && index < size && index < TAPE_MOST ? bytes[index] & 255 : NONE;
         }
 
         private static boolean isBlank(int c) {
@@ -1019,14 +1012,10 @@ public final class NinetyPlayers {
 
         int fault;
         int place = NONE;
-        private final Tokens tokens;
+        final Tape tape = new Tape();
         private Score draft = new Score();
         /** First words of the lines so far, as bits. */
         private int begun;
-
-        Reader(byte[] text) {
-            tokens = new Tokens(text);
-        }
 
         /** The draft goes out as the SCORE, and the one that it replaces is written over next. */
         Score exchange(Score old) {
@@ -1035,26 +1024,26 @@ public final class NinetyPlayers {
             return fresh;
         }
 
-        boolean reads(int size) {
+        void begin() {
             fault = 0;
             place = NONE;
             begun = 0;
             draft.forget();
-            tokens.begin(size);
-            for (int i = 0; i < TAPE_MOST && fault == 0 && tokens.kind != Tokens.END; i++) {
-                line();
-            }
-            return fault == 0;
+            tape.begin();
         }
 
-        private void line() {
-            int word = tokens.kind == Tokens.WORD ? tokens.value : NONE;
+        boolean goesOn() {
+            return fault == 0 && tape.kind != Tape.END;
+        }
+
+        void readLine() {
+            int word = tape.kind == Tape.WORD ? tape.value : NONE;
             if (!mayBegin(word)) {
                 refuse(CANT_STAND);
                 return;
             }
             begun |= 1 << word;
-            tokens.step();
+            tape.step();
             switch (word) {
                 case Word.BEATS:
                     draft.beats = number(1, BEATS_MOST);
@@ -1098,14 +1087,14 @@ public final class NinetyPlayers {
         }
 
         private void partLine() {
-            long name = newName(tokens.kind == Tokens.NAME && draft.partNamed(tokens.name) != NONE);
+            long name = newName(tape.kind == Tape.NAME && draft.partNamed(tape.name) != NONE);
             int role = 0;
             if (isWord(Word.TUNE)) {
                 role = TUNE_ROLE;
-                tokens.step();
+                tape.step();
             } else if (isWord(Word.BASS)) {
                 role = BASS_ROLE;
-                tokens.step();
+                tape.step();
             }
             if (fault == 0) {
                 draft.addPart(name, role);
@@ -1113,7 +1102,7 @@ public final class NinetyPlayers {
         }
 
         private void noteLine() {
-            long name = newName(tokens.kind == Tokens.NAME && draft.hasNoteNamed(tokens.name));
+            long name = newName(tape.kind == Tape.NAME && draft.hasNoteNamed(tape.name));
             takeWord(Word.OF);
             int part = knownPart();
             takeWord(Word.AT);
@@ -1124,7 +1113,7 @@ public final class NinetyPlayers {
             int length = number(1, LENGTH_MOST);
             int loud = LOUD_UNTOLD;
             if (isWord(Word.LOUD)) {
-                tokens.step();
+                tape.step();
                 loud = number(1, LOUD_MOST);
             }
             if (fault == 0) {
@@ -1133,52 +1122,52 @@ public final class NinetyPlayers {
         }
 
         private long newName(boolean known) {
-            if (fault == 0 && (tokens.kind != Tokens.NAME || known)) {
+            if (fault == 0 && (tape.kind != Tape.NAME || known)) {
                 refuse(known ? TOLD_ALREADY : CANT_STAND);
             }
-            long name = tokens.name;
+            long name = tape.name;
             if (fault == 0) {
-                tokens.step();
+                tape.step();
             }
             return name;
         }
 
         private int knownPart() {
-            int part = tokens.kind == Tokens.NAME ? draft.partNamed(tokens.name) : NONE;
+            int part = tape.kind == Tape.NAME ? draft.partNamed(tape.name) : NONE;
             if (fault == 0 && part == NONE) {
-                refuse(tokens.kind == Tokens.NAME ? NO_SUCH_PART : CANT_STAND);
+                refuse(tape.kind == Tape.NAME ? NO_SUCH_PART : CANT_STAND);
             }
             if (fault == 0) {
-                tokens.step();
+                tape.step();
             }
             return part;
         }
 
         private int number(int least, int most) {
-            if (fault == 0 && tokens.kind != Tokens.NUMBER) {
+            if (fault == 0 && tape.kind != Tape.NUMBER) {
                 refuse(CANT_STAND);
             }
-            int value = tokens.value;
+            int value = tape.value;
             if (fault == 0 && (value < least || value > most)) {
                 refuse(CANT_BE);
             }
             if (fault == 0) {
-                tokens.step();
+                tape.step();
             }
             return value;
         }
 
         private boolean isWord(int word) {
-            return fault == 0 && tokens.kind == Tokens.WORD && tokens.value == word;
+            return fault == 0 && tape.kind == Tape.WORD && tape.value == word;
         }
 
         private boolean isSign(char sign) {
-            return fault == 0 && tokens.kind == Tokens.SIGN && tokens.value == sign;
+            return fault == 0 && tape.kind == Tape.SIGN && tape.value == sign;
         }
 
         private void takeWord(int word) {
             if (isWord(word)) {
-                tokens.step();
+                tape.step();
             } else {
                 refuse(CANT_STAND);
             }
@@ -1186,7 +1175,7 @@ public final class NinetyPlayers {
 
         private void takeSign(char sign) {
             if (isSign(sign)) {
-                tokens.step();
+                tape.step();
             } else {
                 refuse(CANT_STAND);
             }
@@ -1194,15 +1183,15 @@ public final class NinetyPlayers {
 
         private void refuse(int kind) {
             if (fault == 0) {
-                fault = tokens.kind == Tokens.WRONG ? NO_TOKEN : kind;
-                place = tokens.place;
+                fault = tape.kind == Tape.WRONG ? NO_TOKEN : kind;
+                place = tape.place;
             }
         }
 
         private void either(int within) {
             both(within);
             for (int i = 0; i < TAPE_MOST && isWord(Word.OR); i++) {
-                tokens.step();
+                tape.step();
                 both(within);
                 draft.formula.put(-Word.OR);
             }
@@ -1211,7 +1200,7 @@ public final class NinetyPlayers {
         private void both(int within) {
             one(within);
             for (int i = 0; i < TAPE_MOST && isWord(Word.AND); i++) {
-                tokens.step();
+                tape.step();
                 one(within);
                 draft.formula.put(-Word.AND);
             }
@@ -1223,15 +1212,15 @@ public final class NinetyPlayers {
                     refuse(CANT_STAND);
                     return;
                 }
-                tokens.step();
+                tape.step();
                 one(within + 1);
                 draft.formula.put(-Word.NOT);
                 return;
             }
             sum(within);
             if (isSign('<') || isSign('>') || isSign('=')) {
-                int relation = tokens.value;
-                tokens.step();
+                int relation = tape.value;
+                tape.step();
                 sum(within);
                 draft.formula.put(-relation);
             }
@@ -1240,8 +1229,8 @@ public final class NinetyPlayers {
         private void sum(int within) {
             term(within);
             for (int i = 0; i < TAPE_MOST && (isSign('+') || isSign('-')); i++) {
-                int sign = tokens.value;
-                tokens.step();
+                int sign = tape.value;
+                tape.step();
                 term(within);
                 draft.formula.put(-sign);
             }
@@ -1250,8 +1239,8 @@ public final class NinetyPlayers {
         private void term(int within) {
             unit(within);
             for (int i = 0; i < TAPE_MOST && (isSign('*') || isSign('/') || isSign('%')); i++) {
-                int sign = tokens.value;
-                tokens.step();
+                int sign = tape.value;
+                tape.step();
                 unit(within);
                 draft.formula.put(-sign);
             }
@@ -1262,15 +1251,15 @@ public final class NinetyPlayers {
                 return;
             }
             boolean nests = isSign('(');
-            boolean fact = tokens.kind == Tokens.WORD && tokens.value >= Word.ROLE && tokens.value <= Word.BEAT;
+            boolean fact = tape.kind == Tape.WORD && tape.value >= Word.ROLE && tape.value <= Word.BEAT;
             boolean fits = draft.formula.units < Formula.UNITS_MOST && !(nests && within >= Formula.NESTED_MOST);
-            if (!fits || !nests && !fact && tokens.kind != Tokens.NUMBER) {
+            if (!fits || !nests && !fact && tape.kind != Tape.NUMBER) {
                 refuse(CANT_STAND);
                 return;
             }
             draft.formula.units++;
-            int value = tokens.value;
-            tokens.step();
+            int value = tape.value;
+            tape.step();
             if (nests) {
                 either(within + 1);
                 takeSign(')');
@@ -1634,8 +1623,8 @@ public final class NinetyPlayers {
 
     /** Seeks the notes that are least missed, over the keyboard as it is laid when it is asked. */
     private static final class Arranger {
-        private final Keyboard keyboard;
-        private final int[] missed;
+        final Keyboard keyboard = new Keyboard();
+        final int[] missed = new int[NOTES_MOST];
         int loss;
         int left;
         int right;
@@ -1645,11 +1634,6 @@ public final class NinetyPlayers {
         private final int[] barsLeft = new int[NOTES_MOST];
         /** By note: beats such that it is the last note on which the leap to them depends. */
         private final int[] settledLeaps = new int[NOTES_MOST];
-
-        Arranger(Keyboard keyboard, int[] missed) {
-            this.keyboard = keyboard;
-            this.missed = missed;
-        }
 
         int handOf(int note) {
             return (left >> note & 1) != 0 ? LEFT : (right >> note & 1) != 0 ? RIGHT : OUT;
@@ -1787,19 +1771,14 @@ public final class NinetyPlayers {
      * beat by beat the best set is kept for each beat that may have been the latest (0: none yet).
      */
     private static final class Pedaller {
-        private final Keyboard keyboard;
         private final int[] bests = new int[BEATS_MOST];
 
-        Pedaller(Keyboard keyboard) {
-            this.keyboard = keyboard;
-        }
-
-        int fewest() {
-            bests[0] = isFree(0, 0, 0) ? 0 : NONE;
+        int fewest(Keyboard keyboard) {
+            bests[0] = isFree(keyboard, 0, 0, 0) ? 0 : NONE;
             for (int beat = 1; beat < keyboard.beats; beat++) {
-                bests[beat] = bestWithPedalAt(beat);
+                bests[beat] = bestWithPedalAt(keyboard, beat);
                 for (int since = 0; since < beat; since++) {
-                    if (!isFree(beat, since, since)) {
+                    if (!isFree(keyboard, beat, since, since)) {
                         bests[since] = NONE;
                     }
                 }
@@ -1811,17 +1790,17 @@ public final class NinetyPlayers {
             return best;
         }
 
-        private int bestWithPedalAt(int beat) {
+        private int bestWithPedalAt(Keyboard keyboard, int beat) {
             int best = NONE;
             for (int since = 0; since < beat; since++) {
-                if (bests[since] != NONE && isFree(beat, since, beat)) {
+                if (bests[since] != NONE && isFree(keyboard, beat, since, beat)) {
                     best = better(best, bests[since] | 1 << beat);
                 }
             }
             return best;
         }
 
-        private boolean isFree(int beat, int sinceAhead, int since) {
+        private static boolean isFree(Keyboard keyboard, int beat, int sinceAhead, int since) {
             int ahead = keyboard.timelySince(sinceAhead, beat - 1);
             int here = keyboard.timelySince(since, beat);
             return keyboard.clashesBetween(keyboard.left, keyboard.right, ahead, here) == 0;

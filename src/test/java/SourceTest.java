@@ -84,6 +84,9 @@ public final class SourceTest {
         for (Class<?> c : all) {
             boolean nested = c != NinetyPlayers.class;
             must(!nested || Modifier.isStatic(c.getModifiers()) && Modifier.isPrivate(c.getModifiers()), c + " is not private and static");
+            for (Constructor<?> made : c.getDeclaredConstructors()) {
+                must(made.getParameterCount() == 0, "a constructor hands something to " + made);
+            }
             int fields = 0;
             for (Field f : c.getDeclaredFields()) {
                 boolean isStatic = Modifier.isStatic(f.getModifiers());
@@ -116,7 +119,7 @@ public final class SourceTest {
         Matcher made = Pattern.compile("\n[^\n]*\\bnew \\w+[^\n]*").matcher(bare);
         while (made.find()) {
             boolean row = made.group().matches("\\s*(private )?(final )?\\w+(\\[\\])? \\w+ = .*");
-            must(row || made.group().contains("tokens = new Tokens(text)"), "made in a call: " + made.group().trim());
+            must(row, "made in a call: " + made.group().trim());
         }
         Matcher method = Pattern.compile("\n(    |        )(?=\\S)[^\n;=]*\\) \\{\n.*?\n\\1\\}", Pattern.DOTALL).matcher(bare);
         int methods = 0;
