@@ -7,7 +7,7 @@ import java.util.List;
 import java.util.regex.Matcher;
 import java.util.regex.Pattern;
 
-/** The words of the document's Terms and promises, and which of them a test has spoken of. */
+/** The document's words behind its title, the class's face apart, and which of them a test has spoken of. */
 final class Document {
     private static final Path PLACE = Path.of("../shared/DOC.md");
 
@@ -25,9 +25,10 @@ final class Document {
             return new Document("");
         }
         String all = Files.readString(PLACE);
-        int from = Math.max(0, all.indexOf("## Terms"));
+        int from = Math.max(0, all.indexOf("An object is used"));
         int to = Math.max(from, all.indexOf("## Not promised"));
         String bare = all.substring(from, to)
+                .replaceAll("(?s)```java.*?```", "")
                 .replaceAll("(?m)^(## |```).*$", "")
                 .replaceAll("(?m)^`[^`\n]*`:", "")
                 .replaceAll("==== \\d\\.", "")

@@ -2,7 +2,7 @@ import java.io.IOException;
 import java.util.Arrays;
 
 /**
- * The document from the first sentence of its Terms to its last promise, in its own words and order: at least one check of each.
+ * The document from its first sentence to its last promise, in its own words and order: at least one check of each.
  * If the document has words of which no check speaks, or a check speaks of words that it has not, the test fails.
  */
 public final class DocumentTest {
@@ -20,6 +20,7 @@ public final class DocumentTest {
 
     public static void main(String[] args) throws IOException {
         document = Document.read();
+        howLong();
         terms();
         whatIsNow();
         whatWouldBe();
@@ -111,6 +112,21 @@ public final class DocumentTest {
         int[] row = new int[x.about(0)];
         Arrays.setAll(row, note -> x.note(note, what));
         return row;
+    }
+
+    private static void howLong() {
+        says("An object is used for at most 512 calls after it has been made");
+        NinetyPlayers x = notes("beats 3;", "0 40 1", "1 41 1");
+        for (int call = 0; call < 500; call++) {
+            x.louder(0, call % 9 + 1);
+        }
+        is("about(8), late", x.about(8), 40);
+        is("louder(0, 9), late", x.louder(0, 9), 5);
+        says("what later calls answer is free.");
+        for (int call = 0; call < 1000; call++) {
+            x.pedal(call % 4);
+        }
+        is("note(0, 5), that does not throw", x.note(0, 5), x.note(0, 5));
     }
 
     // ---- Terms

@@ -37,6 +37,7 @@ public final class SourceTest {
 
     public static void main(String[] args) throws IOException {
         face();
+        faceOfTheDocument();
         classes();
         text();
         room();
@@ -71,6 +72,25 @@ public final class SourceTest {
         }
         Constructor<?>[] constructors = c.getDeclaredConstructors();
         must(constructors.length == 1 && constructors[0].getParameterCount() == 0, "other constructors");
+    }
+
+    /** If the document is there, its face is the one that is compared above. */
+    private static void faceOfTheDocument() throws IOException {
+        Path place = Path.of("../shared/DOC.md");
+        if (!Files.exists(place)) {
+            System.out.println("SourceTest: the document is not there, its face was not compared");
+            return;
+        }
+        Matcher block = Pattern.compile("(?s)```java\n(.*?)```").matcher(Files.readString(place));
+        must(block.find(), "the document has no face");
+        Set<String> found = new TreeSet<>();
+        Matcher method = Pattern.compile("public (int|boolean) (\\w+)\\(([^)]*)\\);").matcher(block.group(1));
+        while (method.find()) {
+            found.add(method.group(1) + " " + method.group(2) + "(" + method.group(3).replaceAll(" \\w+(?=,|$)", "").replace(" ", "") + ")");
+        }
+        must(found.equals(new TreeSet<>(Arrays.asList(FACE))), "the document has another face: " + found);
+        must(block.group(1).contains("public static final int NONE = -1;"), "the document has no NONE");
+        must(NinetyPlayers.NONE == -1, "NONE is " + NinetyPlayers.NONE);
     }
 
     private static void classes() {
