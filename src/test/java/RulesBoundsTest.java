@@ -12,6 +12,7 @@ public final class RulesBoundsTest {
         missedDividesBy0();
         missedOfWhatIsNot0();
         missedIfNotTold();
+        missedToldAnew();
         doubled();
         heldSoLong();
         heldToTheNextPedal();
@@ -164,6 +165,28 @@ public final class RulesBoundsTest {
         String[] names = {"role", "key", "long", "loud", "doubled", "beat"};
         for (int i = 0; i < facts.length; i++) {
             missedIs("by role, key, long, loud, doubled, beat", names[i], facts[i]);
+        }
+    }
+
+    /** Nothing of a longer formula, of a SCORE told before or of a text with a FAULT, is left behind a shorter one. */
+    private static void missedToldAnew() {
+        String sentence = "The TAPE is the SCORE (all as told)";
+        String note = "part p;note a of p at 0 key 40 long 1;missed ";
+        String[] longer = {"not 1", "5+1", "5-1", "5*0", "5/9", "5%2", "5<1", "5=4", "0 or 0", "5 and 0", "not not 0", "1+2+3+4+5"};
+        for (String first : longer) {
+            NinetyPlayers x = new NinetyPlayers();
+            for (int told = 0; told < 3; told++) {
+                Tally.tell(x, note + first + ";");
+            }
+            for (int told = 0; told < 3; told++) {
+                Tally.tell(x, note + "7;");
+                TALLY.due(sentence, "missed " + first + ", then missed 7", x.note(0, 6), 7);
+                Tally.tell(x, note + first + ";$");
+                TALLY.due(sentence, "missed 7, then missed " + first + " with a FAULT", x.note(0, 6), 7);
+            }
+            Tally.tell(x, note.replace("missed ", ""));
+            TALLY.due(sentence, "missed " + first + ", then none", x.note(0, 6), 5);
+            TALLY.due(sentence, "missed " + first + ", then none, about(13)", x.about(13), 0);
         }
     }
 
